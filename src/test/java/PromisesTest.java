@@ -99,6 +99,13 @@ public final class PromisesTest {
         due("depth behind wrong calls", x.hydrostaticAbove(1, 1234), 14526);
         due("undo() of the last good one", x.undo(), 3);
         due("volume behind undo", x.layerVolume(0, 0), 3000);
+        due("undo() of the one before", x.undo(), 2);
+        due("pipe behind undo", x.strokesToBit(1), 2000);
+        due("depth behind undo", x.hydrostaticAbove(0, 101), -2);
+        due("annulus behind undo", x.influx(501, 1), -3);
+        due("undo()", x.undo(), 1);
+        due("undo()", x.undo(), 0);
+        due("shoe behind undo", x.shoePressure(), 11);
     }
 
     private static void setGeometryStartsAnew() {
@@ -310,6 +317,10 @@ public final class PromisesTest {
         x.setMud(1);
         x.setGeometry(100, 1, 5, 1);
         due("hydrostatic(0), the least", x.hydrostatic(0), 0);
+        x.setMud(158);
+        x.setGeometry(100, 1, 5, 1);
+        due("154.998 is rounded down", x.hydrostatic(0), 154);
+        due("154.998 is rounded down", x.hydrostaticAbove(0, 100), 154);
     }
 
     // Promise 10
@@ -433,6 +444,11 @@ public final class PromisesTest {
         due("exactly a density", x.killDensity(), 100);
         x.setFormation(981 * 3 + 1);
         due("just over a density", x.killDensity(), 101);
+        x.setGeometry(139, 3, 7, 5);
+        x.setFormation(2674);
+        due("1961 lacks a hundred-thousandth", x.killDensity(), 1962);
+        x.setGeometry(3000, 3, 7, 5);
+        x.setFormation(981 * 3 + 1);
         x.setMud(7);
         x.influx(9, 9);
         x.pump(500);
@@ -488,6 +504,17 @@ public final class PromisesTest {
         x.setMud(1500);
         due("the driller's method brings the present mud", x.killShoePressure(0, 1000), 1471);
         due("wait and weight brings none of it", x.killShoePressure(1, 1000), 1177);
+        x.setFormation(0);
+        x.influx(1000, 2500);
+        due("the greatest one seen is 2452", x.greatestShoePressure(), 2452);
+        due("and is not in it", x.killShoePressure(1, 1000), 1177);
+        x.setMud(1);
+        x.setGeometry(100, 19, 5, 100);
+        x.setMud(2500);
+        due("400 litres of the mud and 100 of the kill mud", x.killShoePressure(0, 500), 1962);
+        x.setMud(1);
+        x.setGeometry(100, 1, 5, 1);
+        due("no pressure at all", x.killShoePressure(1, 100), 0);
     }
 
     // Promise 18
@@ -648,18 +675,18 @@ public final class PromisesTest {
         due("undo()", x.undo(), 0);
         due("digest() behind undo", x.digest(), fresh);
         for (int i = 1; i <= 6; i++) {
-            x.setFormation(i);
+            x.setFormation(11772 + i);
         }
         x.setFormation(-1);
         x.hydrostatic(0);
-        due("undo()", x.undo(), 3);
-        due("undo()", x.undo(), 2);
-        x.setFormation(77);
-        due("undo()", x.undo(), 2);
-        due("undo()", x.undo(), 1);
-        due("undo()", x.undo(), 0);
+        undone(x, 3, 5);
+        undone(x, 2, 4);
+        x.setFormation(20000);
+        undone(x, 2, 4);
+        undone(x, 1, 3);
+        undone(x, 0, 2);
         refused(x, "undo(), none is left", x.undo(), -5, 0);
-        due("only four were saved", x.setFormation(0), 2);
+        due("only four were saved", x.setFormation(0), 11774);
 
         WellControl y = new WellControl();
         y.setFormation(14000);
@@ -672,6 +699,11 @@ public final class PromisesTest {
         due("undo restores all", y.digest(), before);
         column(y, 1, new int[] {23000, 1200, 2000, 300});
         column(y, 0, new int[] {9000, 1200});
+    }
+
+    private static void undone(WellControl x, int left, int drillPipe) {
+        due("undo()", x.undo(), left);
+        due("drillPipePressure() behind undo", x.drillPipePressure(), drillPipe);
     }
 
     private static void undoKeepsErrors() {

@@ -117,10 +117,10 @@ public final class ReferenceTest {
         }
     }
 
-    /** As many layers as 512 calls can make, by each of the ways to make them. */
+    /** As many layers as 512 calls can make, in several ways; the looks behind them have room too. */
     private void manyLayers(int way) {
         geometry(100 + way, 20, 60, 60);
-        for (int i = 1; i < CALLS - 2; i++) {
+        for (int i = 1; i < CALLS; i++) {
             int turn = way == 0 ? 0 : i % (way == 1 ? 2 : 3);
             int density = 1 + i % 2500;
             if (way >= 4) {
