@@ -36,7 +36,7 @@ public final class NeverThrowsTest {
             x.undo();
             readAll(x);
         }
-        Due.due("the pipe is full", volume(x, 0), x.strokesToBit(1));
+        Due.due("the pipe is full", Columns.volume(x, 0), x.strokesToBit(1));
     }
 
     private static void readAll(WellControl x) {
@@ -74,16 +74,8 @@ public final class NeverThrowsTest {
 
     /** Pipe and annulus are equally deep, so their volumes are as their capacities. */
     private static void full(WellControl x, int pipeCapacity, int annulusCapacity) {
-        long pipe = volume(x, 0);
+        long pipe = Columns.volume(x, 0);
         Due.due("the pipe is full", pipe, x.strokesToBit(1));
-        Due.due("the annulus is full", volume(x, 1) * pipeCapacity, pipe * annulusCapacity);
-    }
-
-    private static long volume(WellControl x, int column) {
-        long sum = 0;
-        for (int i = 0; i < x.layers(column); i++) {
-            sum += x.layerVolume(column, i);
-        }
-        return sum;
+        Due.due("the annulus is full", Columns.volume(x, 1) * pipeCapacity, pipe * annulusCapacity);
     }
 }

@@ -240,35 +240,25 @@ public final class PromisesTest {
             x.setMud(mud);
             x.pump(50);
         }
-        column(x, 0, new int[] {50, 1500, 50, 1400, 50, 1300, 50, 1200});
-        column(x, 1, new int[] {500, 1200});
+        Columns.due(x, 0, 50, 1500, 50, 1400, 50, 1300, 50, 1200);
+        Columns.due(x, 1, 500, 1200);
         x.pump(130);
-        column(x, 0, new int[] {180, 1500, 20, 1400});
-        column(x, 1, new int[] {420, 1200, 50, 1300, 30, 1400});
+        Columns.due(x, 0, 180, 1500, 20, 1400);
+        Columns.due(x, 1, 420, 1200, 50, 1300, 30, 1400);
         x.influx(10, 1400);
         x.influx(5, 900);
-        column(x, 1, new int[] {405, 1200, 50, 1300, 40, 1400, 5, 900});
+        Columns.due(x, 1, 405, 1200, 50, 1300, 40, 1400, 5, 900);
         x.pump(25);
-        column(x, 0, new int[] {200, 1500});
-        column(x, 1, new int[] {380, 1200, 50, 1300, 40, 1400, 5, 900, 20, 1400, 5, 1500});
+        Columns.due(x, 0, 200, 1500);
+        Columns.due(x, 1, 380, 1200, 50, 1300, 40, 1400, 5, 900, 20, 1400, 5, 1500);
         x.setMud(1200);
         x.pump(200);
-        column(x, 0, new int[] {200, 1200});
-        column(x, 1, new int[] {180, 1200, 50, 1300, 40, 1400, 5, 900, 20, 1400, 205, 1500});
+        Columns.due(x, 0, 200, 1200);
+        Columns.due(x, 1, 180, 1200, 50, 1300, 40, 1400, 5, 900, 20, 1400, 205, 1500);
         x.pump(200);
-        column(x, 1, new int[] {30, 1300, 40, 1400, 5, 900, 20, 1400, 205, 1500, 200, 1200});
+        Columns.due(x, 1, 30, 1300, 40, 1400, 5, 900, 20, 1400, 205, 1500, 200, 1200);
         x.pump(70);
-        column(x, 1, new int[] {5, 900, 20, 1400, 205, 1500, 270, 1200});
-    }
-
-    private static void column(WellControl x, int column, int[] layers) {
-        due("layers(" + column + ")", x.layers(column), layers.length / 2);
-        for (int i = 0; i < layers.length / 2; i++) {
-            due("layerVolume(" + column + ", " + i + ")", x.layerVolume(column, i), layers[2 * i]);
-            due("layerDensity(" + column + ", " + i + ")", x.layerDensity(column, i),
-                    layers[2 * i + 1]);
-        }
-        due("layerVolume below the last", x.layerVolume(column, layers.length / 2), -4);
+        Columns.due(x, 1, 5, 900, 20, 1400, 205, 1500, 270, 1200);
     }
 
     // Promise 8
@@ -286,13 +276,13 @@ public final class PromisesTest {
         due("gain()", x.gain(), 0);
         x.setFormation(13000);
         due("influx(2000, 300)", x.influx(2000, 300), 1935);
-        column(x, 0, new int[] {9000, 1200});
-        column(x, 1, new int[] {23000, 1200, 2000, 300});
+        Columns.due(x, 0, 9000, 1200);
+        Columns.due(x, 1, 23000, 1200, 2000, 300);
         due("influx(1, 1)", x.influx(1, 1), 1935);
         due("influx(25000, 2500), all of it", x.influx(25000, 2500), 0);
-        column(x, 1, new int[] {25000, 2500});
+        Columns.due(x, 1, 25000, 2500);
         due("undo()", x.undo(), 3);
-        column(x, 1, new int[] {22999, 1200, 2000, 300, 1, 1});
+        Columns.due(x, 1, 22999, 1200, 2000, 300, 1, 1);
         due("influx(1, 1200)", x.influx(1, 1200), 1935);
         due("influx(25000, 1)", x.influx(25000, 1), 13000 - 9);
     }
@@ -697,8 +687,8 @@ public final class PromisesTest {
         y.undo();
         y.undo();
         due("undo restores all", y.digest(), before);
-        column(y, 1, new int[] {23000, 1200, 2000, 300});
-        column(y, 0, new int[] {9000, 1200});
+        Columns.due(y, 1, 23000, 1200, 2000, 300);
+        Columns.due(y, 0, 9000, 1200);
     }
 
     private static void undone(WellControl x, int left, int drillPipe) {
