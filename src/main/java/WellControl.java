@@ -20,10 +20,9 @@ public final class WellControl {
     private static final int ERROR_CODES = 4;
 
     /*
-     * Seen as one column from the top of the pipe to the top of the annulus, a new well is one layer.
-     * A pumping adds a layer only behind a setMud. An influx adds one, and a second one where it
-     * splits a layer at the bottom: the first influx can, and then one behind each pumping. That is
-     * at most 514 layers after 512 calls, and a kill method adds two.
+     * Count the layers of both columns, and one more while the mud is not that on the top of the pipe:
+     * that is 2 in a new well, and no call adds more than one to it, so at most 514 after 512 calls.
+     * A kill method adds two at most: its kill mud, and a layer that is cut at the bottom of the pipe.
      */
     private static final int ROOM = 520;
 

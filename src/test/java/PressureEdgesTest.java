@@ -20,6 +20,7 @@ public final class PressureEdgesTest {
         allowedCasingPressureIsNoErrorCode();
         killDensityAtItsEnds();
         killDensityIsTheLeast();
+        killDensityWhereOneLacksAlmostNothing();
         scheduleIsRoundedTowardsZero();
         scheduleRoundsTheLastPressureDown();
         scheduleDoesNotOverflow();
@@ -316,6 +317,18 @@ public final class PressureEdgesTest {
                 Due.holds("the least" + where, kill == 1
                         || filled(kill - 1, depth, 3, 5, 1).hydrostatic(0) < formation);
             }
+        }
+    }
+
+    /** The density of one less has a hundred-thousandth of a kPa less than the formation. */
+    private static void killDensityWhereOneLacksAlmostNothing() {
+        int[][] wells = {{139, 2674, 1962}, {1861, 712, 40}, {2181, 41914, 1960}, {2947, 53686, 1858}};
+        for (int[] w : wells) {
+            WellControl x = filled(1, w[0], 3, 5, 1);
+            x.setFormation(w[1]);
+            due("killDensity() at " + w[1] + " in " + w[0], x.killDensity(), w[2]);
+            x.setFormation(w[1] - 1);
+            due("killDensity() at one less", x.killDensity(), w[2] - 1);
         }
     }
 

@@ -1,6 +1,7 @@
 /** Long runs of calls on the program and on the reference side by side; every answer must agree. */
 public final class ReferenceTest {
     private static final int CALLS = 512;
+    private static final int LOOKS = 13;
     private static final int[] WILD = {0, -1, 1, 2, -2, -5, -6, 99, 100, 101, 2500, 2501, 60000, 60001,
         9999, 10000, Integer.MAX_VALUE, Integer.MIN_VALUE};
 
@@ -117,10 +118,10 @@ public final class ReferenceTest {
         }
     }
 
-    /** As many layers as 512 calls can make, in several ways; the looks behind them have room too. */
+    /** As many layers as calls can make, in several ways, with the looks behind them 512 calls in all. */
     private void manyLayers(int way) {
         geometry(100 + way, 20, 60, 60);
-        for (int i = 1; i < CALLS; i++) {
+        for (int i = 1; i < CALLS - LOOKS; i++) {
             int turn = way == 0 ? 0 : i % (way == 1 ? 2 : 3);
             int density = 1 + i % 2500;
             if (way >= 4) {
@@ -145,7 +146,7 @@ public final class ReferenceTest {
     }
 
     private void makeThenMove(int i, int way) {
-        if (i > 500) {
+        if (i > CALLS - LOOKS - 12) {
             pump(i % 2 == 0 ? 999 : 3 * way);
         } else if (i % 2 == 0) {
             mud(1 + i % 2500);
