@@ -6,6 +6,7 @@ import java.nio.file.Files;
 import java.nio.file.Path;
 import java.util.Set;
 import java.util.TreeSet;
+import java.util.regex.Matcher;
 import java.util.regex.Pattern;
 
 /** The rules of LANGUAGE.md that can be seen from the class and its source. */
@@ -23,11 +24,16 @@ public final class LanguageTest {
         "->", "::", "\\bimport\\b", "\\bpackage\\b", "\\bObject\\b", "\\bException\\b", "Exact\\b",
         "\\bSystem\\b", "\\bThread\\b", "\\b(float|double)\\b", "\\bstatic\\s*\\{"};
 
+    private static final Set<String> LIBRARY = Set.of("Math.max", "Math.min", "Math.floorMod");
+
     public static void main(String[] args) throws Exception {
         methods();
         constants();
         classesInside();
+        sizes();
         source();
+        library();
+        lengths();
         Due.end();
     }
 
@@ -101,16 +107,68 @@ public final class LanguageTest {
         }
     }
 
+    private static void sizes() {
+        Class<?>[] inside = WellControl.class.getDeclaredClasses();
+        Due.holds("at most twelve classes", inside.length + 1 <= 12);
+        size(WellControl.class);
+        for (Class<?> one : inside) {
+            size(one);
+        }
+    }
+
+    private static void size(Class<?> one) {
+        int fields = 0;
+        for (Field f : one.getDeclaredFields()) {
+            fields += Modifier.isStatic(f.getModifiers()) ? 0 : 1;
+        }
+        Due.holds("at most twenty fields in " + one.getName(), fields <= 20);
+        for (Method m : one.getDeclaredMethods()) {
+            Due.holds("at most seven parameters of " + m.getName(), m.getParameterCount() <= 7);
+        }
+    }
+
+    private static String text() throws Exception {
+        return Files.readString(Path.of("src/main/java/WellControl.java"));
+    }
+
+    private static String code() throws Exception {
+        return text().replaceAll("(?s)/\\*.*?\\*/", "").replaceAll("//.*", "");
+    }
+
     private static void source() throws Exception {
-        String text = Files.readString(Path.of("src/main/java/WellControl.java"));
-        for (char sign : text.toCharArray()) {
+        for (char sign : text().toCharArray()) {
             if (sign > 127) {
                 Due.holds("only signs to 127, not " + (int) sign, false);
             }
         }
-        String code = text.replaceAll("(?s)/\\*.*?\\*/", "").replaceAll("//.*", "");
+        String code = code();
         for (String pattern : FORBIDDEN) {
             Due.holds("no " + pattern, !Pattern.compile(pattern).matcher(code).find());
         }
+    }
+
+    private static void library() throws Exception {
+        Matcher used = Pattern.compile("\\b([A-Z][a-z]\\w*)\\.(\\w+)").matcher(code());
+        while (used.find()) {
+            Due.holds("the language has " + used.group(), LIBRARY.contains(used.group()));
+        }
+    }
+
+    /** A method begins four or eight signs from the left, and ends with a brace that stands there. */
+    private static void lengths() throws Exception {
+        String[] lines = text().split("\n");
+        int seen = 0;
+        for (int i = 0; i < lines.length; i++) {
+            Matcher begin = Pattern.compile("( {4}| {8})\\w[^=]*\\) \\{").matcher(lines[i]);
+            if (begin.matches()) {
+                seen++;
+                int end = i;
+                while (end < lines.length && !lines[end].equals(begin.group(1) + "}")) {
+                    end++;
+                }
+                Due.holds("at most sixty lines: " + lines[i], end - i <= 60);
+            }
+        }
+        Due.holds("the methods were seen", seen >= FACE.length);
     }
 }

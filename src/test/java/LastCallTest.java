@@ -17,6 +17,7 @@ public final class LastCallTest {
         gainOfAllCalls();
         layersOfAllCalls();
         mudsOfAllCalls();
+        killMethodsBehindLayersOfAllCalls();
         theLastOfManyKinds();
         Due.end();
     }
@@ -105,6 +106,24 @@ public final class LastCallTest {
         due("the last", withMuds().layerVolume(0, CALLS / 2 - 1), 9000 - (CALLS / 2 - 1));
         due("below the last", withMuds().layerVolume(0, CALLS / 2), -4);
         due("pump(9000)", withMuds().pump(9000), 0);
+    }
+
+    /** A kill method adds the mud of the pipe and the kill mud to as many layers as calls can make. */
+    private static void killMethodsBehindLayersOfAllCalls() {
+        for (int method = 0; method <= 1; method++) {
+            for (int formation : new int[] {0, 24525}) {
+                WellControl x = new WellControl();
+                ReferenceWell r = new ReferenceWell();
+                if (formation > 0) {
+                    due("setFormation", x.setFormation(formation), r.setFormation(formation));
+                }
+                for (int i = formation > 0 ? 2 : 1; i < CALLS; i++) {
+                    due("influx", x.influx(1, 2499 + i % 2), r.influx(1, 2499 + i % 2));
+                }
+                due("killShoePressure(" + method + ", 500) is call 512, at " + formation,
+                        x.killShoePressure(method, 500), r.killShoePressure(method, 500));
+            }
+        }
     }
 
     /** Each of them is call 512 of an object with as many layers as calls can make. */

@@ -14,10 +14,12 @@ public final class PressureEdgesTest {
         standpipePressureAtItsEnds();
         theShoeBreaksAboveTheFracturePressure();
         theShoeIsCheckedOnceForEachFlow();
+        theShoeIsCheckedBehindTheFlow();
         onlyFlowIsChecked();
         theGreatestIsTheGreatest();
         allowedCasingPressureMayBeNegative();
         allowedCasingPressureIsNoErrorCode();
+        allowedCasingPressureIsTheGreatestThatHolds();
         killDensityAtItsEnds();
         killDensityIsTheLeast();
         killDensityWhereOneLacksAlmostNothing();
@@ -225,6 +227,27 @@ public final class PressureEdgesTest {
         due("breaks() behind undo", x.breaks(), 2);
     }
 
+    /** Heavy mud goes all the way through: only with it in the annulus the shoe breaks. */
+    private static void theShoeIsCheckedBehindTheFlow() {
+        WellControl x = filled(1, 100, 20, 20, 100);
+        x.setFracture(2451);
+        x.setMud(2500);
+        pumpedAll(x, 0, 0);
+        x.setMud(1);
+        pumpedAll(x, 1, 2452);
+        pumpedAll(x, 1, 2452);
+        x.influx(2000, 2500);
+        due("breaks() with a heavy influx", x.breaks(), 2);
+        x.influx(2000, 1);
+        due("breaks() with a light influx", x.breaks(), 2);
+    }
+
+    private static void pumpedAll(WellControl x, int breaks, int greatest) {
+        x.pump(2000);
+        due("breaks() behind all of the pipe", x.breaks(), breaks);
+        due("greatestShoePressure() behind all of the pipe", x.greatestShoePressure(), greatest);
+    }
+
     private static void onlyFlowIsChecked() {
         WellControl x = new WellControl();
         x.setFormation(60000);
@@ -287,6 +310,28 @@ public final class PressureEdgesTest {
         }
         for (int code = -5; code <= -2; code++) {
             due("errorCount(" + code + ")", x.errorCount(code), 0);
+        }
+    }
+
+    /** The formation brings the casing pressure to it, and one above it; the annulus stays as it is. */
+    private static void allowedCasingPressureIsTheGreatestThatHolds() {
+        int[][] wells = {{400, 8000, 1200}, {1, 8000, 1200}, {1000, 11800, 1200}, {400, 8000, 300},
+            {777, 30000, 2500}, {400, 4708, 1200}};
+        for (int[] w : wells) {
+            WellControl x = filled(1200, 1000, 9, 25, w[0]);
+            x.setFracture(w[1]);
+            x.influx(25000, w[2]);
+            int breaksBefore = x.breaks();
+            int allowed = x.allowedCasingPressure();
+            x.setFormation(x.hydrostatic(1) + allowed);
+            due("casingPressure()", x.casingPressure(), allowed);
+            x.influx(1, w[2]);
+            due("breaks() at the allowed pressure", x.breaks(), breaksBefore);
+            x.undo();
+            x.setFormation(x.hydrostatic(1) + allowed + 1);
+            due("casingPressure()", x.casingPressure(), allowed + 1);
+            x.influx(1, w[2]);
+            due("breaks() at one above it", x.breaks(), breaksBefore + 1);
         }
     }
 

@@ -19,6 +19,7 @@ public final class StateEdgesTest {
         theCountersAreNotSaved();
         theLimitsComeBack();
         undoWithoutSavedStates();
+        wellsDoNotShareAnything();
         gainIsOfInfluxesAlone();
         aNewGeometrySetsCountsToZero();
         anErrorCountsItself();
@@ -208,6 +209,34 @@ public final class StateEdgesTest {
             x.undo();
         }
         return x.gain();
+    }
+
+    private static void wellsDoNotShareAnything() {
+        long[] alone = answersToTheLastSaved(Start.WORKED.make());
+        WellControl among = Start.WORKED.make();
+        for (Start start : Start.values()) {
+            WellControl other = start.make();
+            other.setGeometry(100, 20, 5, 100);
+            other.influx(400, 1);
+            other.setMud(0);
+            other.killShoePressure(0, 500);
+            other.undo();
+        }
+        long[] amongOthers = answersToTheLastSaved(among);
+        for (int i = 0; i < alone.length; i++) {
+            due("answer " + i + " among other wells", amongOthers[i], alone[i]);
+        }
+        due("digest() of a new object behind others", new WellControl().digest(), hash(NEW).longValue());
+    }
+
+    private static long[] answersToTheLastSaved(WellControl x) {
+        long[] answers = new long[15];
+        for (int i = 0; i < answers.length; i += 3) {
+            answers[i] = x.digest();
+            answers[i + 1] = x.killShoePressure(0, 500);
+            answers[i + 2] = x.undo();
+        }
+        return answers;
     }
 
     private static void gainIsOfInfluxesAlone() {
