@@ -18,6 +18,11 @@ public final class ReadmeTest {
 
     private final WellControl well = new WellControl();
     private final Set<String> names = new HashSet<>();
+    private final Set<String> called;
+
+    private ReadmeTest(Set<String> called) {
+        this.called = called;
+    }
 
     public static void main(String[] args) throws Exception {
         String text = Files.readString(Path.of("README.md"));
@@ -29,13 +34,15 @@ public final class ReadmeTest {
     }
 
     private static void examples(String text) throws Exception {
-        int blocks = 0;
+        Set<String> called = new HashSet<>();
         Matcher block = BLOCK.matcher(text);
         while (block.find()) {
-            blocks++;
-            new ReadmeTest().example(block.group(1).split("\n"));
+            new ReadmeTest(called).example(block.group(1).split("\n"));
         }
-        Due.holds("README.md has examples", blocks >= 3);
+        for (Method method : WellControl.class.getDeclaredMethods()) {
+            Due.holds("README.md shows " + method.getName(), called.contains(method.getName())
+                    || !Modifier.isPublic(method.getModifiers()));
+        }
     }
 
     private void example(String[] lines) throws Exception {
@@ -60,6 +67,7 @@ public final class ReadmeTest {
             types[i] = int.class;
         }
         Method method = WellControl.class.getMethod(call.group(3), types);
+        called.add(method.getName());
         Due.due(line, ((Number) method.invoke(well, arguments)).longValue(),
                 Long.parseLong(call.group(5)));
         if (call.group(1) != null) {
